@@ -8,6 +8,7 @@ public final class NodeTest {
         wrongArguments();
         finding();
         equalLeaves();
+        equalLeavesOfOtherLengths();
         equalNodes();
         differentNodes();
         counts();
@@ -124,6 +125,16 @@ public final class NodeTest {
         check.due("missing with the same fault", y.equal(15, 20), true);
         check.due("missing of another kind", y.equal(20, 21), false);
         check.due("parentheses round them", y.equal(12, 23), false);
+    }
+
+    private static void equalLeavesOfOtherLengths() {
+        SharedSyntax x = Check.of("a;ab;");
+        check.due("longer", x.equal(2, 5), false);
+        check.due("shorter", x.equal(5, 2), false);
+        SharedSyntax y = Check.of("if(a);if(a);else;");
+        check.due("more children", y.equal(1, 8), false);
+        check.due("fewer children", y.equal(8, 1), false);
+        check.due("the parts before the else", y.equal(6, 13), true);
     }
 
     private static void equalNodes() {
