@@ -6,6 +6,7 @@ public final class SharedSyntax {
     private static final int BUFFER_MOST = 20;
     private static final int STORED_MOST = 3;
     private static final int DEPTH_MOST = 6;
+    private static final int TOKENS_MOST = TEXT_MOST + 1;
 
     // Every node but PROGRAM and END can be charged to a character: the dearest one is a ( that begins a
     // statement, with the leaf, 28, 24 and three missing leaves.
@@ -75,7 +76,12 @@ public final class SharedSyntax {
     public boolean edit(int start, int removed) {
         boolean possible = fits(start, removed);
         if (possible) {
-            change(start, removed);
+            history.store(current.text);
+            spare.text.splice(current.text, start, removed, buffer);
+            spare.read();
+            takeTurns();
+            kept = keptCount(start, removed);
+            version++;
         }
         buffer.clear();
         return possible;
@@ -158,15 +164,10 @@ public final class SharedSyntax {
         return size - removed + buffer.size <= TEXT_MOST;
     }
 
-    private void change(int start, int removed) {
-        history.store(current.text);
-        spare.text.splice(current.text, start, removed, buffer);
-        spare.read();
+    private void takeTurns() {
         Reading old = current;
         current = spare;
         spare = old;
-        kept = keptCount(start, removed);
-        version++;
     }
 
     private int keptCount(int start, int removed) {
@@ -279,40 +280,55 @@ public final class SharedSyntax {
         }
     }
 
-    /** The tokens of a text, one at a time; kind, own and end are those of the current one. */
+    /** The tokens of a text, cut all at once; the last one is the END, which stays the current one. */
     private static final class Tokens {
         private final Letters text;
-        private int kind;
-        private int own;
-        private int end;
+        private final int[] kinds;
+        private final int[] owns;
+        private final int[] ends;
+        private int used;
+        private int at;
 
         Tokens(Letters text) {
             this.text = text;
-            kind = END;
-            own = 0;
-            end = 0;
+            kinds = new int[TOKENS_MOST];
+            owns = new int[TOKENS_MOST];
+            ends = new int[TOKENS_MOST];
+            used = 0;
+            at = 0;
         }
 
-        void restart() {
-            end = 0;
-            advance();
+        int kind() {
+            return at < used ? kinds[at] : END;
+        }
+
+        int own() {
+            return at < used ? owns[at] : text.size;
+        }
+
+        int end() {
+            return at < used ? ends[at] : text.size;
         }
 
         void advance() {
-            own = behindBlanks(end);
-            int c = text.at(own);
-            if (own >= text.size) {
-                end = own;
-                kind = END;
-            } else if (isSmallLetter(c)) {
-                end = behindLetters(own);
-                kind = wordKind();
-            } else if (isDigit(c)) {
-                end = behindDigits(own);
-                kind = NUMBER;
-            } else {
-                end = own + 1;
-                kind = signKind(c);
+            if (at < used - 1) {
+                at++;
+            }
+        }
+
+        void cut() {
+            used = 0;
+            at = 0;
+            int kind = NONE;
+            int end = 0;
+            while (used < TOKENS_MOST && kind != END) {
+                int own = behindBlanks(end);
+                end = behindOwn(own);
+                kind = kindOf(own, end);
+                kinds[used] = kind;
+                owns[used] = own;
+                ends[used] = end;
+                used++;
             }
         }
 
@@ -332,33 +348,45 @@ public final class SharedSyntax {
             return p;
         }
 
-        private int behindLetters(int from) {
-            int p = from;
-            while (p < text.size && isSmallLetter(text.at(p))) {
+        private int behindOwn(int own) {
+            int c = text.at(own);
+            int p = own;
+            if (isSmallLetter(c)) {
+                while (p < text.size && isSmallLetter(text.at(p))) {
+                    p++;
+                }
+            } else if (isDigit(c)) {
+                while (p < text.size && isDigit(text.at(p))) {
+                    p++;
+                }
+            } else if (p < text.size) {
                 p++;
             }
             return p;
         }
 
-        private int behindDigits(int from) {
-            int p = from;
-            while (p < text.size && isDigit(text.at(p))) {
-                p++;
+        private int kindOf(int own, int end) {
+            if (own >= end) {
+                return END;
             }
-            return p;
+            int c = text.at(own);
+            if (isSmallLetter(c)) {
+                return wordKind(own, end);
+            }
+            return isDigit(c) ? NUMBER : signKind(c);
         }
 
-        private int wordKind() {
-            if (spells("if")) {
+        private int wordKind(int own, int end) {
+            if (spells(own, end, "if")) {
                 return IF_WORD;
             }
-            if (spells("else")) {
+            if (spells(own, end, "else")) {
                 return ELSE_WORD;
             }
-            return spells("while") ? WHILE_WORD : NAME;
+            return spells(own, end, "while") ? WHILE_WORD : NAME;
         }
 
-        private boolean spells(String word) {
+        private boolean spells(int own, int end, String word) {
             if (end - own != word.length()) {
                 return false;
             }
@@ -647,7 +675,7 @@ public final class SharedSyntax {
 
         void read() {
             tree.clear();
-            tokens.restart();
+            tokens.cut();
             place = 0;
             skipped = 0;
             open = 0;
@@ -663,19 +691,19 @@ public final class SharedSyntax {
         }
 
         private void take() {
-            tree.add(tokens.kind, place, tokens.own);
+            tree.add(tokens.kind(), place, tokens.own());
             for (int i = 0; i < skipped; i++) {
                 tree.addFault(skippedPlaces[i], skippedFaults[i]);
             }
             skipped = 0;
-            place = tokens.end;
+            place = tokens.end();
             tokens.advance();
         }
 
         private void skip() {
             if (skipped < TEXT_MOST) {
-                skippedPlaces[skipped] = tokens.own;
-                skippedFaults[skipped] = canBegin(tokens.kind) ? FAULT_TOO_DEEP : FAULT_SKIPPED;
+                skippedPlaces[skipped] = tokens.own();
+                skippedFaults[skipped] = canBegin(tokens.kind()) ? FAULT_TOO_DEEP : FAULT_SKIPPED;
                 skipped++;
             }
             tokens.advance();
@@ -687,7 +715,7 @@ public final class SharedSyntax {
         }
 
         private void expect(int kind) {
-            if (tokens.kind == kind) {
+            if (tokens.kind() == kind) {
                 take();
             } else {
                 miss(kind, FAULT_MISSING);
@@ -706,11 +734,11 @@ public final class SharedSyntax {
 
         private boolean listEnds(int depth) {
             boolean inBlock = depth > 0;
-            return tokens.kind == END || (inBlock && tokens.kind == RIGHT_BRACE);
+            return tokens.kind() == END || (inBlock && tokens.kind() == RIGHT_BRACE);
         }
 
         private boolean statementFollows(int depth) {
-            int kind = tokens.kind;
+            int kind = tokens.kind();
             boolean nests = kind == IF_WORD || kind == WHILE_WORD || kind == LEFT_BRACE;
             return canBegin(kind) && !(nests && depth >= DEPTH_MOST);
         }
@@ -732,7 +760,7 @@ public final class SharedSyntax {
         }
 
         private void statement(int depth) {
-            switch (tokens.kind) {
+            switch (tokens.kind()) {
                 case SEMICOLON:
                     emptyStatement();
                     break;
@@ -770,7 +798,7 @@ public final class SharedSyntax {
             take();
             condition();
             part(depth + 1);
-            if (tokens.kind == ELSE_WORD) {
+            if (tokens.kind() == ELSE_WORD) {
                 take();
                 part(depth + 1);
             }
@@ -804,7 +832,7 @@ public final class SharedSyntax {
                 return;
             }
             int node = begin(EMPTY);
-            miss(SEMICOLON, canBegin(tokens.kind) ? FAULT_TOO_DEEP : FAULT_MISSING);
+            miss(SEMICOLON, canBegin(tokens.kind()) ? FAULT_TOO_DEEP : FAULT_MISSING);
             tree.close(node);
         }
 
@@ -812,10 +840,10 @@ public final class SharedSyntax {
             int outer = open;
             int left = tree.used;
             operand(nesting);
-            for (int i = 0; i < TEXT_MOST && bindingOf(tokens.kind) > 0; i++) {
-                int binding = bindingOf(tokens.kind);
+            for (int i = 0; i < TEXT_MOST && bindingOf(tokens.kind()) > 0; i++) {
+                int binding = bindingOf(tokens.kind());
                 // = binds from the right: one before it stays open.
-                int closing = tokens.kind == ASSIGN ? binding + 1 : binding;
+                int closing = tokens.kind() == ASSIGN ? binding + 1 : binding;
                 left = closeSigns(outer, closing, left);
                 tree.wrap(left, BINARY);
                 openSign(left, binding);
@@ -857,7 +885,7 @@ public final class SharedSyntax {
         }
 
         private void operand(int nesting) {
-            int kind = tokens.kind;
+            int kind = tokens.kind();
             boolean nests = kind == LEFT_PAREN || kind == MINUS;
             if (kind == NAME || kind == NUMBER) {
                 take();
