@@ -1,3 +1,5 @@
+import java.util.Arrays;
+
 /** What the tests share: a count of wrong answers, and short ways to make and to show a text and its tree. */
 final class Check {
     private final String name;
@@ -24,11 +26,29 @@ final class Check {
         }
     }
 
+    /** The text has this tree and these faults, both as shown below. */
+    void dueTree(String text, String tree, String faults) {
+        SharedSyntax x = of(text);
+        due("tree of " + text, tree(x), tree);
+        due("faults of " + text, faults(x), faults);
+        due("number of faults of " + text, x.count(2), faults.isEmpty() ? 0 : faults.split(" ").length);
+    }
+
     void end() {
         System.out.println(name + ": " + asked + " answers, " + wrong + " wrong");
         if (wrong != 0 || asked == 0) {
             System.exit(1);
         }
+    }
+
+    /** Numbers that are not 0 .. many - 1: those beside it, the farthest, and some that a narrower type would take for it. */
+    static int[] outside(int many) {
+        int[] far = {
+            -1, -2, -many, -many - 1, many, many + 1, many + (1 << 8), many - (1 << 8), -(1 << 8), 1 << 15, 1 << 16,
+            (1 << 16) + many - 1, -(1 << 16), 1 << 24, 1 << 30, -(1 << 30), Integer.MIN_VALUE, Integer.MIN_VALUE + 1,
+            Integer.MIN_VALUE + many, Integer.MAX_VALUE - many, Integer.MAX_VALUE - 1, Integer.MAX_VALUE,
+        };
+        return Arrays.stream(far).filter(k -> k < 0 || k >= many).toArray();
     }
 
     static void type(SharedSyntax x, String text) {

@@ -16,10 +16,7 @@ public final class TreeTest {
     }
 
     private static void due(String text, String tree, String faults) {
-        SharedSyntax x = Check.of(text);
-        check.due("tree of " + text, Check.tree(x), tree);
-        check.due("faults of " + text, Check.faults(x), faults);
-        check.due("number of faults of " + text, x.count(2), faults.isEmpty() ? 0 : faults.split(" ").length);
+        check.dueTree(text, tree, faults);
     }
 
     private static void tokens() {
