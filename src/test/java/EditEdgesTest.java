@@ -25,6 +25,7 @@ public final class EditEdgesTest {
         keptWithoutCharacters();
         keptKinds();
         keptOnlyIfEqual();
+        keptOfTheOldTreeAlone();
         keptInTheLatestEdit();
         length();
         differentNodes();
@@ -385,6 +386,17 @@ public final class EditEdgesTest {
         keptDue("#\na;", 1, 1, "", 0);
         keptDue("a;b;", 2, 0, "#", 1);
         keptDue("a;#b;", 2, 1, "", 1);
+    }
+
+    // "the old tree has an equal one": not the tree before that, which may still be held somewhere.
+    private static void keptOfTheOldTreeAlone() {
+        SharedSyntax x = Check.of("if(a)");
+        check.due("edit", x.edit(0, 0), true);
+        check.due("all are kept", x.count(6), 2);
+        Check.put(x, 0, 5, ";;   ");
+        check.due("none is kept", x.count(6), 0);
+        Check.put(x, 0, 5, "if(a)");
+        check.due("nor of the text that was there before", x.count(6), 0);
     }
 
     // 12: "the statements that were kept in the latest edit (0 if there was none; going back changes nothing in that)"
