@@ -1,6 +1,10 @@
 import java.util.Random;
 
-/** The program held against the model: every short text of tokens, and long runs of calls from fixed seeds. */
+/**
+ * The program held against the model: every short text of tokens, and long runs of calls from fixed seeds. Here an
+ * object is asked more than 512 times, which the document leaves free: the program counts no calls, so that nothing
+ * is different then; CallsTest keeps to the limit.
+ */
 public final class ModelTest {
     private static final Check check = new Check("ModelTest");
     private static final String[] PIECES = {

@@ -13,6 +13,7 @@ public final class TreeEdgesTest {
     };
 
     public static void main(String[] args) {
+        everyTokenOnce();
         expectedLeaves();
         whatBeginsAStatement();
         listsInBlocks();
@@ -45,6 +46,45 @@ public final class TreeEdgesTest {
 
     private static int missingIn(String tree) {
         return tree.length() - tree.replace("?", "").length();
+    }
+
+    // "going over the tokens once; the CURRENT one is the next that was not used. To TAKE it makes it a leaf."
+    private static void everyTokenOnce() {
+        int tokens = 16;
+        for (int i = 0; i < tokens * tokens * tokens; i++) {
+            int[] kinds = {i % tokens + 1, i / tokens % tokens + 1, i / tokens / tokens + 1};
+            String text = TOKEN[kinds[0]] + " " + TOKEN[kinds[1]] + " " + TOKEN[kinds[2]];
+            check.due("tokens of " + text, usedTokens(text), kinds[0] + " " + kinds[1] + " " + kinds[2] + " 17");
+        }
+    }
+
+    /** The kinds of the tokens that are leaves or were skipped before one, in the order of their places. */
+    private static String usedTokens(String text) {
+        SharedSyntax x = Check.of(text);
+        int nodes = x.count(0);
+        StringBuilder used = new StringBuilder();
+        for (int k = 0; k < nodes; k++) {
+            boolean taken = x.node(k, 4) == 0 && x.node(k, 6) == 0;
+            if (taken) {
+                // Of these texts each token but the last has a blank behind it.
+                String blanks = text.substring(x.node(k, 1), x.node(k, 3)).trim();
+                String[] skipped = blanks.isEmpty() ? new String[0] : blanks.split(" ");
+                check.due("skipped before leaf " + k + " of " + text, x.node(k, 7), skipped.length);
+                for (String token : skipped) {
+                    used.append(kindOf(token)).append(' ');
+                }
+                used.append(x.node(k, 0)).append(' ');
+            }
+        }
+        return used.toString().trim();
+    }
+
+    private static int kindOf(String token) {
+        int kind = 1;
+        while (!TOKEN[kind].equals(token)) {
+            kind++;
+        }
+        return kind;
     }
 
     // "if the current token is of kind K it is taken, otherwise there is a MISSING leaf .. which has a FAULT 2"

@@ -20,10 +20,19 @@ final class Whole {
     static String after(Consumer<SharedSyntax> run) {
         Whole whole = new Whole(run);
         whole.tellText();
-        whole.tellCounts();
+        whole.tellCounts(-1, 8);
         whole.tellNodes();
         whole.tellBuffer();
         whole.tellStored();
+        return whole.told.toString();
+    }
+
+    /** The part of it that the present text alone decides. */
+    static String treeAfter(Consumer<SharedSyntax> run) {
+        Whole whole = new Whole(run);
+        whole.tellText();
+        whole.tellCounts(0, 3);
+        whole.tellNodes();
         return whole.told.toString();
     }
 
@@ -50,9 +59,9 @@ final class Whole {
         }
     }
 
-    private void tellCounts() {
+    private void tellCounts(int from, int to) {
         told.append("\n  counts");
-        for (int what = -1; what <= 8; what++) {
+        for (int what = from; what <= to; what++) {
             told.append(' ').append(ask().count(what));
         }
         told.append("\n  faults");
