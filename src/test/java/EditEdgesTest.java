@@ -384,6 +384,11 @@ public final class EditEdgesTest {
         keptDue("{{{{{{;", 0, 1, "", 6);
         keptDue("{{{{{{;}}}}}}", 0, 0, "{", 0);
         keptDue("#\na;", 1, 1, "", 0);
+        // The missing part has a fault 3 before and 2 after: the { which was too deep for it is gone.
+        keptDue("{{{{{if(a){", 10, 1, "}", 0);
+        keptDue("{{{{{if(a){", 10, 1, "{", 2);
+        // Another equal statement, but one that was none in the old tree: there the { before it was too deep.
+        keptDue("{{{{{{a;{a;}", 0, 1, "", 1);
         keptDue("a;b;", 2, 0, "#", 1);
         keptDue("a;#b;", 2, 1, "", 1);
     }

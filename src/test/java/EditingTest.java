@@ -145,7 +145,15 @@ public final class EditingTest {
         for (int p : none) {
             check.due("letter " + p, x.letter(p), 0);
         }
+        x.edit(4, 0);
         x.edit(1, 3);
-        check.due("letter that is gone", x.letter(1), 0);
+        for (int p = 1; p < 4; p++) {
+            check.due("letter that is gone", x.letter(p), 0);
+        }
+        x.undo();
+        check.due("letter that is there again", x.letter(1), 126);
+        Check.put(x, 4, 0, "abc");
+        x.undo();
+        check.due("letter of the text that was gone back from", x.letter(4), 0);
     }
 }

@@ -285,6 +285,10 @@ public final class NodeEdgesTest {
         equalDue("a;a;", 2, 5, true);
         equalDue("a;b;", 2, 5, false);
         equalDue("a;aa;", 2, 5, false);
+        equalDue("ab;ac;", 2, 5, false);
+        equalDue("abcd;abzd;", 2, 5, false);
+        equalDue("abcd;abcd;", 2, 5, true);
+        equalDue("#a\nb;#c\nb;", 2, 5, false);
         equalDue("a; a;", 2, 5, false);
         equalDue(" a; a;", 2, 5, true);
         equalDue(" a;\na;", 2, 5, false);

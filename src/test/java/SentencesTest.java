@@ -36,6 +36,8 @@ public final class SentencesTest {
                 sentences.add(words(sentence.toString()));
                 tests.add(line.trim());
                 sentence.setLength(0);
+            } else if (line.isEmpty()) {
+                check.due("a sentence without a test", words(sentence.toString()), "");
             } else {
                 sentence.append(line).append(' ');
             }
@@ -67,8 +69,11 @@ public final class SentencesTest {
     }
 
     private static void testsOf(String sentence, String tests) throws IOException {
+        // The two words in capitals are titles, no sentences.
+        String one = sentence.replaceFirst("^(TEXT|THE TREE)\\.", "");
+        check.due("one sentence by itself: " + sentence, one.matches(".*[a-z0-9)}]\\. [A-Z].*"), false);
         if (tests.equals(NOTHING)) {
-            check.due("nothing is promised by: " + sentence, sentence.contains("free") && sentence.contains("not promised"), true);
+            check.due("nothing is promised by: " + sentence, sentence.matches(".*\\b(free|not promised)\\b.*"), true);
             return;
         }
         for (String test : tests.split(" +")) {

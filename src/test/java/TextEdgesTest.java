@@ -208,6 +208,12 @@ public final class TextEdgesTest {
         for (String name : names) {
             due(name + ";", "20(24(1:" + name + " 6:;) 17:)", "");
         }
+        for (String word : new String[] {"if", "else", "while"}) {
+            for (int i = 0; i < word.length(); i++) {
+                String name = word.substring(0, i) + (char) (word.charAt(i) + 1) + word.substring(i + 1);
+                due(name + ";", "20(24(1:" + name + " 6:;) 17:)", "");
+            }
+        }
         due("if", "20(22(3:if ?9 ?1 ?10 25(?6)) 17:)", "2/2 2/2 2/2 2/2");
         due("while", "20(23(5:while ?9 ?1 ?10 25(?6)) 17:)", "5/2 5/2 5/2 5/2");
         due("else", "20(17:else)", "0/1");

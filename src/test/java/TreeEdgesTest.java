@@ -15,6 +15,7 @@ public final class TreeEdgesTest {
     public static void main(String[] args) {
         everyTokenOnce();
         expectedLeaves();
+        expectedByEveryToken();
         whatBeginsAStatement();
         listsInBlocks();
         depthOfLists();
@@ -105,6 +106,35 @@ public final class TreeEdgesTest {
         due("if{}", "20(22(3:if ?9 ?1 ?10 21(7:{ 8:})) 17:)", "2/2 2/2 2/2");
         due("if)a;", "20(22(3:if ?9 ?1 10:) 24(1:a 6:;)) 17:)", "2/2 2/2");
         due("(a}", "20(24(28(9:( 1:a ?10) ?6) 17:})", "2/2 2/2 2/1");
+    }
+
+    // The same with each token where a kind is expected: behind the text the leaf k is due, there or missing.
+    private static void expectedByEveryToken() {
+        String[] before = {"if", "while", "if(a", "while(a", "(a", "a", "{"};
+        int[] leaf = {3, 3, 5, 5, 5, 3, 3};
+        int[] due = {9, 9, 10, 10, 10, 6, 8};
+        for (int i = 0; i < before.length; i++) {
+            boolean behindOperand = before[i].endsWith("a");
+            for (int kind = 1; kind <= 16; kind++) {
+                boolean goesOn = behindOperand && kind >= 11 && kind <= 15 || due[i] == 8 && !BEGUN[kind].isEmpty();
+                if (!goesOn) {
+                    expectedDue(before[i] + " " + TOKEN[kind], leaf[i], due[i], before[i].length(), kind == due[i]);
+                }
+            }
+            expectedDue(before[i] + " ", leaf[i], due[i], before[i].length(), false);
+        }
+    }
+
+    private static void expectedDue(String text, int k, int kind, int place, boolean there) {
+        SharedSyntax x = Check.of(text);
+        check.due("kind of leaf " + k + " of " + text, x.node(k, 0), kind);
+        check.due("leaf " + k + " begins in " + text, x.node(k, 1), place);
+        check.due("leaf " + k + " is missing in " + text, x.node(k, 6), there ? 0 : 1);
+        check.due("characters of leaf " + k + " of " + text, x.node(k, 2), there ? 2 : 0);
+        check.due("faults of leaf " + k + " of " + text, x.node(k, 7), there ? 0 : 1);
+        if (!there) {
+            check.due("fault of leaf " + k + " of " + text, x.fault(0), 4 * place + 2);
+        }
     }
 
     // "A token can begin a statement if it is of kind 1, 2, 3, 5, 6, 7, 9 or 12."; skipped: "FAULT .. otherwise 1"
