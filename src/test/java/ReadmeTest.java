@@ -129,7 +129,7 @@ public final class ReadmeTest {
         check.due(ALL_TESTS + " can be run", Files.isExecutable(Path.of(ALL_TESTS)), true);
         Path checkout = folder.resolve("checkout/main");
         copy(Path.of("src"), checkout.resolve("src"));
-        copy(SHARED, folder.resolve("checkout/shared"));
+        Files.createSymbolicLink(folder.resolve("checkout/shared"), SHARED.toRealPath());
         for (String block : blocks) {
             Process process = new ProcessBuilder("sh", "-e", "-c", block).directory(checkout.toFile())
                 .redirectErrorStream(true).start();
